@@ -1,0 +1,128 @@
+import java.util.concurrent.Callable;
+
+/** What the tests share: counting wrong answers, feeding texts, and showing trees as text. */
+final class Check {
+    private static int wrong = 0;
+    private static int asked = 0;
+
+    private Check() {
+    }
+
+    static void same(String call, Object want, Object got) {
+        asked++;
+        if (!want.equals(got)) {
+            wrong++;
+            System.out.println(call + " answered " + show(got) + ", due is " + show(want));
+        }
+    }
+
+    static void refuses(String call, Class<? extends Exception> due, Callable<?> work) {
+        asked++;
+        try {
+            Object got = work.call();
+            wrong++;
+            System.out.println(call + " answered " + got + ", due is " + due.getSimpleName());
+        } catch (Exception e) {
+            if (e.getClass() != due) {
+                wrong++;
+                System.out.println(call + " threw " + e + ", due is " + due.getSimpleName());
+            }
+        }
+    }
+
+    static void end(String test) {
+        System.out.println(test + ": " + asked + " answers, " + wrong + " wrong");
+        if (wrong != 0) {
+            System.exit(1);
+        }
+    }
+
+    private static String show(Object o) {
+        return o.toString().replace("\\", "\\\\").replace("\n", "\\n");
+    }
+
+    /** Up to 8 characters as feed, find and rename take them. */
+    static long pack(String s) {
+        if (s.length() > 8) {
+            throw new IllegalArgumentException(s);
+        }
+        long bytes = 0;
+        for (int i = 0; i < s.length(); i++) {
+            bytes = bytes << 8 | s.charAt(i);
+        }
+        return bytes;
+    }
+
+    static void feedText(OffsideParser x, String text) {
+        for (int i = 0; i < text.length(); i += 8) {
+            x.feed(pack(text.substring(i, Math.min(i + 8, text.length()))));
+        }
+    }
+
+    static OffsideParser fed(String text) {
+        OffsideParser x = new OffsideParser();
+        feedText(x, text);
+        return x;
+    }
+
+    static OffsideParser parsed(String text) {
+        OffsideParser x = fed(text);
+        x.parse();
+        return x;
+    }
+
+    /** The tree in one line: [items] or {items} for a block, (parts) for a group. */
+    static String tree(OffsideParser x) {
+        StringBuilder out = new StringBuilder();
+        showNode(x, 0, out);
+        return out.toString();
+    }
+
+    private static void showNode(OffsideParser x, int node, StringBuilder out) {
+        int kind = x.kind(node);
+        if (kind == 2) {
+            for (int i = 0; x.letter(node, i) != -1; i++) {
+                out.append((char) x.letter(node, i));
+            }
+        } else if (kind == 3) {
+            out.append(x.value(node));
+        } else {
+            boolean braced = kind == 0 && x.value(node) == 1;
+            out.append(kind == 0 ? braced ? "{" : "[" : kind == 4 ? "(" : "");
+            for (int i = 0; i < x.childCount(node); i++) {
+                out.append(i == 0 ? "" : kind == 0 ? ", " : " ");
+                showNode(x, x.child(node, i), out);
+            }
+            out.append(kind == 0 ? braced ? "}" : "]" : kind == 4 ? ")" : "");
+        }
+    }
+
+    /** The repairs in one line, each one as KIND line:column. */
+    static String repairs(OffsideParser x) {
+        String[] names = {"?", "STRAY", "COLUMN", "ALONE", "CLOSING", "DEEP", "OPEN"};
+        StringBuilder out = new StringBuilder();
+        for (int i = 0; i < x.repairCount(); i++) {
+            out.append(i == 0 ? "" : ", ").append(names[x.repair(i, 0)]);
+            out.append(' ').append(x.repair(i, 1)).append(':').append(x.repair(i, 2));
+        }
+        return out.toString();
+    }
+
+    /** Line and column of each node, in the order of their numbers. */
+    static String places(OffsideParser x) {
+        StringBuilder out = new StringBuilder();
+        for (int node = 0; node < x.nodeCount(); node++) {
+            out.append(node == 0 ? "" : " ").append(x.line(node)).append(':').append(x.column(node));
+        }
+        return out.toString();
+    }
+
+    static String written(OffsideParser x, boolean withColumns) {
+        int size = x.write(withColumns);
+        StringBuilder out = new StringBuilder();
+        for (int i = 0; i < size; i++) {
+            out.append((char) x.written(i));
+        }
+        return out.toString();
+    }
+}
