@@ -715,7 +715,7 @@ public final class OffsideParser {
                 set(i, LEVEL, get(i, LEVEL) + deeper);
                 set(i, DEPTH, get(i, DEPTH) + moreBlocks);
             }
-            if (place < item) {
+            if (place <= item) {
                 cells.turn(place * WIDTH, item * WIDTH, end * WIDTH);
                 return place;
             }
