@@ -199,10 +199,11 @@ public final class OffsideParser {
     }
 
     public int write(boolean withColumns) {
+        printer.startAgain();
         if (withColumns) {
-            printer.printWithColumns();
+            printer.printLines(0, 0);
         } else {
-            printer.printWithBraces();
+            printer.printItems();
         }
         return printer.size();
     }
@@ -466,6 +467,7 @@ public final class OffsideParser {
     /**
      * The nodes in the order of their numbers, each with its level below the root. The children of a
      * node are the nodes one level deeper that follow it, up to the next node that is not deeper.
+     * What is called from far up reads the cells itself, since calls may go only eight deep.
      */
     private static final class Tree {
         private static final int KIND = 0;
@@ -501,7 +503,7 @@ public final class OffsideParser {
         }
 
         boolean is(int node, int sort) {
-            return get(node, KIND) == sort;
+            return cells.at(node * WIDTH + KIND) == sort;
         }
 
         /** The holder must be the root, or lie on the way from the root to the last node. */
@@ -509,17 +511,13 @@ public final class OffsideParser {
             boolean root = holder == NONE;
             cells.push(sort);
             cells.push(root ? 0 : get(holder, LEVEL) + 1);
-            cells.push(root ? 0 : depthWithin(holder));
+            cells.push(root ? 0 : get(holder, DEPTH) + (is(holder, BLOCK) ? 1 : 0));
             cells.push(atLine);
             cells.push(atColumn);
             cells.push(number);
             cells.push(letters.size());
             count++;
             return count - 1;
-        }
-
-        private int depthWithin(int holder) {
-            return get(holder, DEPTH) + (is(holder, BLOCK) ? 1 : 0);
         }
 
         /** Each word gets room for the longest new name, so that a renamed word stays where it is. */
@@ -543,8 +541,8 @@ public final class OffsideParser {
         }
 
         int letterOf(int word, int index) {
-            boolean inside = index >= 0 && index < get(word, VALUE);
-            return inside ? letters.at(get(word, SPELLED_AT) + index) : NONE;
+            boolean inside = index >= 0 && index < cells.at(word * WIDTH + VALUE);
+            return inside ? letters.at(cells.at(word * WIDTH + SPELLED_AT) + index) : NONE;
         }
 
         int holder(int node) {
@@ -559,9 +557,9 @@ public final class OffsideParser {
 
         /** The number of the first node behind all that is in a node. */
         int after(int node) {
-            int level = get(node, LEVEL);
+            int level = cells.at(node * WIDTH + LEVEL);
             int end = node + 1;
-            while (end < count && get(end, LEVEL) > level) {
+            while (end < count && cells.at(end * WIDTH + LEVEL) > level) {
                 end++;
             }
             return end;
@@ -710,7 +708,7 @@ public final class OffsideParser {
         int carry(int item, int block, int place) {
             int end = after(item);
             int deeper = get(block, LEVEL) + 1 - get(item, LEVEL);
-            int moreBlocks = depthWithin(block) - get(item, DEPTH);
+            int moreBlocks = get(block, DEPTH) + 1 - get(item, DEPTH);
             for (int i = item; i < end; i++) {
                 set(i, LEVEL, get(i, LEVEL) + deeper);
                 set(i, DEPTH, get(i, DEPTH) + moreBlocks);
@@ -957,19 +955,18 @@ public final class OffsideParser {
             return out.at(index);
         }
 
-        void printWithBraces() {
+        void startAgain() {
             out.cut(0);
+        }
+
+        /** Prints the root's items, each in a line, with all blocks in braces. */
+        void printItems() {
             for (int i = 1; i < tree.size(); i++) {
                 if (tree.get(i, Tree.LEVEL) == 1) {
                     printParts(i, tree.after(i), 0);
                     out.push(LINE_END);
                 }
             }
-        }
-
-        void printWithColumns() {
-            out.cut(0);
-            printLines(0, 0);
         }
 
         /** Prints the items of a block, each with lines of its own, as deep in columns as in blocks. */

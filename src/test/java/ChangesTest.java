@@ -80,6 +80,8 @@ final class ChangesTest {
         move("a:{};b (c)", 4, 3, 0, 4, "[a {b (c)}]");
         move("a:{}b:{};c", 6, 3, 0, 4, "[a {c} b {}]");
         move("a:{}b:{};c", 6, 5, 0, 6, "[a {} b {c}]");
+        move("a:{b}:{c}", 4, 6, 0, 5, "[a {} {b, c}]");
+        move("a:{b}:{c}", 7, 3, 1, 6, "[a {b, c} {}]");
         OffsideParser x = Check.parsed("p:\n  q\n r");
         x.move(6, 3, 0);
         Check.same("places go with their nodes", "0:0 0:0 0:0 1:2 2:1 2:1 1:2 1:2", Check.places(x));

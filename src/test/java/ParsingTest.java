@@ -80,6 +80,9 @@ final class ParsingTest {
         due("a:\n  b\n;\n c", "[a [b], c]", "");
         due("a:\n  b\n )\nc", "[a [b], c]", "COLUMN 2:1, CLOSING 2:1");
         due("  a\n}", "[a]", "COLUMN 1:0, CLOSING 1:0");
+        due("  a\nb c", "[a, b c]", "COLUMN 1:0");
+        due("   a\nb c", "[a, b c]", "COLUMN 1:0");
+        due("a:\n    b \\\n c d", "[a [b c d]]", "");
         due("  } a\nb", "[a, b]", "CLOSING 0:2, COLUMN 1:0");
         due("a:\n  b\n  ) c", "[a [b, c]]", "CLOSING 2:2");
     }
@@ -244,6 +247,26 @@ final class ParsingTest {
         Check.same("repairs stay when the tree is changed", 2, x.repairCount());
         Check.same("parse() after remove", 6, x.parse());
         Check.same("tree after that", "[a [b]]", Check.tree(x));
+        OffsideParser other = Check.parsed("a:\n  b: {\n (c: @ \\\n");
+        other.trim(0);
+        Check.feedText(other, "  x:\n   y\nz )");
+        Check.same("parse() of another text", 8, other.parse());
+        Check.same("its tree", "[x [y], z]", Check.tree(other));
+        Check.same("its repairs", "COLUMN 2:0, CLOSING 2:2", Check.repairs(other));
+        other.trim(0);
+        Check.feedText(other, "# x");
+        other.parse();
+        other.trim(0);
+        Check.feedText(other, "p @:");
+        Check.same("parse() after a comment", 4, other.parse());
+        Check.same("its repairs", "STRAY 0:2", Check.repairs(other));
+        other.trim(2);
+        Check.feedText(other, "\\\n");
+        other.parse();
+        other.trim(0);
+        Check.feedText(other, "  a\nb");
+        other.parse();
+        Check.same("tree after a joined end", "[a, b]", Check.tree(other));
     }
 
     private static void longestTexts() {
@@ -256,6 +279,11 @@ final class ParsingTest {
         Check.same("its blocks", 600, colons.childCount(1));
         OffsideParser most = Check.fed(("a:".repeat(30) + "a\n").repeat(9) + "a:".repeat(20) + "ab");
         Check.same("parse() of the most nodes", 1 + 9 * 92 + 62, most.parse());
+        OffsideParser brackets = Check.fed("(".repeat(600));
+        Check.same("parse() of 600 brackets", 32, brackets.parse());
+        Check.same("their repairs", 600, brackets.repairCount());
+        Check.same("the last one's kind", 6, brackets.repair(599, 0));
+        Check.same("the last one's column", 600, brackets.repair(599, 2));
         OffsideParser lines = Check.fed(" a" + "\n}".repeat(299));
         Check.same("parse() of 299 wrong lines", 3, lines.parse());
         Check.same("their two repairs each", 598, lines.repairCount());
