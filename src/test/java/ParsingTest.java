@@ -267,6 +267,12 @@ final class ParsingTest {
         Check.feedText(other, "  a\nb");
         other.parse();
         Check.same("tree after a joined end", "[a, b]", Check.tree(other));
+        OffsideParser open = Check.parsed("a:{b:{(c");
+        open.trim(0);
+        Check.feedText(open, "\\\na: b\n   c; : d");
+        open.parse();
+        Check.same("tree after blocks that stayed open", "[a [b, c, d]]", Check.tree(open));
+        Check.same("repairs after blocks that stayed open", "ALONE 2:6", Check.repairs(open));
     }
 
     private static void longestTexts() {
