@@ -71,7 +71,10 @@ final class Check {
         return x;
     }
 
-    /** The tree in one line: [items] or {items} for a block, (parts) for a group. */
+    /**
+     * The tree in one line: [items] or {items} for a block, (parts) for a group. It asks as little as it can,
+     * since nothing is promised about an object after its 512th call.
+     */
     static String tree(OffsideParser x) {
         StringBuilder out = new StringBuilder();
         showNode(x, 0, out);
@@ -81,15 +84,18 @@ final class Check {
     private static void showNode(OffsideParser x, int node, StringBuilder out) {
         int kind = x.kind(node);
         if (kind == 2) {
-            for (int i = 0; x.letter(node, i) != -1; i++) {
-                out.append((char) x.letter(node, i));
+            int letter = x.letter(node, 0);
+            for (int i = 1; letter != -1; i++) {
+                out.append((char) letter);
+                letter = x.letter(node, i);
             }
         } else if (kind == 3) {
             out.append(x.value(node));
         } else {
             boolean braced = kind == 0 && x.value(node) == 1;
             out.append(kind == 0 ? braced ? "{" : "[" : kind == 4 ? "(" : "");
-            for (int i = 0; i < x.childCount(node); i++) {
+            int children = x.childCount(node);
+            for (int i = 0; i < children; i++) {
                 out.append(i == 0 ? "" : kind == 0 ? ", " : " ");
                 showNode(x, x.child(node, i), out);
             }
@@ -101,7 +107,8 @@ final class Check {
     static String repairs(OffsideParser x) {
         String[] names = {"?", "STRAY", "COLUMN", "ALONE", "CLOSING", "DEEP", "OPEN"};
         StringBuilder out = new StringBuilder();
-        for (int i = 0; i < x.repairCount(); i++) {
+        int count = x.repairCount();
+        for (int i = 0; i < count; i++) {
             out.append(i == 0 ? "" : ", ").append(names[x.repair(i, 0)]);
             out.append(' ').append(x.repair(i, 1)).append(':').append(x.repair(i, 2));
         }
