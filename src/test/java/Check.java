@@ -4,28 +4,41 @@ import java.util.concurrent.Callable;
 final class Check {
     private static int wrong = 0;
     private static int asked = 0;
+    private static String sentence = "";
 
     private Check() {
+    }
+
+    /** Says which words of the document the next answers are about; wrong ones are printed below them. */
+    static void sentence(String section, String words) {
+        sentence = "[" + section + "] " + words;
+        Document.isTested(section, words);
     }
 
     static void same(String call, Object want, Object got) {
         asked++;
         if (!want.equals(got)) {
-            wrong++;
-            System.out.println(call + " answered " + show(got) + ", due is " + show(want));
+            tell(call + " answered " + show(got) + ", due is " + show(want));
         }
+    }
+
+    private static void tell(String what) {
+        wrong++;
+        if (!sentence.isEmpty()) {
+            System.out.println(sentence);
+        }
+        System.out.println(what.replace("\n", "\\n"));
     }
 
     static void refuses(String call, Class<? extends Exception> due, Callable<?> work) {
         asked++;
         try {
             Object got = work.call();
-            wrong++;
-            System.out.println(call + " answered " + got + ", due is " + due.getSimpleName());
+            tell(call + " answered " + got + ", due is " + due.getSimpleName());
         } catch (Exception e) {
+            // A class below the due one is the machine's own, and is wrong as well.
             if (e.getClass() != due) {
-                wrong++;
-                System.out.println(call + " threw " + e + ", due is " + due.getSimpleName());
+                tell(call + " threw " + e + ", due is " + due.getSimpleName());
             }
         }
     }
@@ -69,6 +82,14 @@ final class Check {
         OffsideParser x = fed(text);
         x.parse();
         return x;
+    }
+
+    /** Checks tree and repairs of a text, and answers the object for more questions. */
+    static OffsideParser parses(String text, String tree, String repairs) {
+        // Each answer comes from an object of its own, since no object is good for more than 512 calls.
+        same("tree of \"" + text + "\"", tree, tree(parsed(text)));
+        same("repairs of \"" + text + "\"", repairs, repairs(parsed(text)));
+        return parsed(text);
     }
 
     /**

@@ -119,7 +119,17 @@ final class ModelTest {
     }
 
     private int anyNode() {
-        return random.nextInt(model.all().size() + 2) - 1;
+        return random.nextInt(60) == 0 ? farNumber() : random.nextInt(model.all().size() + 2) - 1;
+    }
+
+    /** Some of these come back into a row when they are multiplied by the width of its parts. */
+    private int farNumber() {
+        int[] far = {Integer.MIN_VALUE, Integer.MAX_VALUE, 1 << 30, 613566757, 1431655766, -1431655765, random.nextInt()};
+        return far[random.nextInt(far.length)];
+    }
+
+    private int smallIndex() {
+        return random.nextInt(60) == 0 ? farNumber() : random.nextInt(6) - 1;
     }
 
     private int nodeOfKind(int kind) {
@@ -135,7 +145,7 @@ final class ModelTest {
 
     private void askNode() {
         int n = anyNode();
-        int i = random.nextInt(5) - 1;
+        int i = smallIndex();
         switch (random.nextInt(9)) {
             case 0:
                 both("kind(" + n + ")", () -> model.node(n).kind, () -> x.kind(n));
@@ -174,7 +184,7 @@ final class ModelTest {
     }
 
     private void askRest() {
-        int i = random.nextInt(6) - 1;
+        int i = smallIndex();
         long bytes = name();
         switch (random.nextInt(6)) {
             case 0:
@@ -208,7 +218,7 @@ final class ModelTest {
         int item = nodeOfKind(1);
         int block = nodeOfKind(0);
         int word = nodeOfKind(2);
-        int index = random.nextInt(6) - 1;
+        int index = smallIndex();
         long bytes = name();
         switch (random.nextInt(12)) {
             case 0:

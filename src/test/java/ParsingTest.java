@@ -18,10 +18,7 @@ final class ParsingTest {
     }
 
     private static OffsideParser due(String text, String tree, String repairs) {
-        OffsideParser x = Check.parsed(text);
-        Check.same("tree of \"" + text + "\"", tree, Check.tree(x));
-        Check.same("repairs of \"" + text + "\"", repairs, Check.repairs(x));
-        return x;
+        return Check.parses(text, tree, repairs);
     }
 
     private static void tokens() {
