@@ -522,7 +522,8 @@ final class ParsingEdges {
         Check.sentence("Promise 5", "The tree and the repairs become those of the text.");
         String[] before = {"a#b", "a\\\n", "a\\", "(((", "a:{b:{", "a:b:c", "a:", "a:{b:", "      a", "@@ )", " a\nb", ";", "a;",
             "a:".repeat(30) + "b", "(".repeat(31), "\n\n\n", "abc 123", "x".repeat(600), ""};
-        String[] texts = {"a", "  a\n  b\n   c", "{b}", "(b)", ")b", "}b", ":b", "b\nc:d\n @e", "a:\n  b\n c", "@", "", "a)@b}", "1"};
+        String[] texts = {"a", "  a\n  b\n   c", "{b}", "(b)", ")b", "}b", ":b", "b\nc:d\n @e", "a:\n  b\n c", "@", "", "a)@b}", "1",
+            "\\\na: b\n   c; : d", "\\\n:a", "\\\n  (a"};
         for (String first : before) {
             for (String text : texts) {
                 OffsideParser x = Check.parsed(first);
