@@ -5,8 +5,10 @@ import java.util.ArrayList;
 import java.util.LinkedHashMap;
 import java.util.List;
 import java.util.Map;
+import java.util.regex.Matcher;
+import java.util.regex.Pattern;
 
-/** The sentences of ../shared/DOC.md, and which of them have a test. */
+/** The sentences of ../shared/DOC.md, and which of them have a test; and its examples. */
 final class Document {
     private static final Path FILE = Path.of("../shared/DOC.md");
     private static final Map<String, String> SECTIONS = sections();
@@ -35,7 +37,7 @@ final class Document {
         }
     }
 
-    private static boolean isThere() {
+    static boolean isThere() {
         return SECTIONS.containsKey("Description");
     }
 
@@ -89,6 +91,20 @@ final class Document {
                     found.add(sentence);
                 }
             }
+        }
+        return found;
+    }
+
+    /** An example: the text that it puts in, and its calls, each one as "call = result". */
+    record Example(String text, List<String> calls) {
+    }
+
+    static List<Example> examples() {
+        List<Example> found = new ArrayList<>();
+        String description = SECTIONS.getOrDefault("Description", "");
+        Matcher line = Pattern.compile("(?m)^ +[0-9]+\\. [^\"\n]*\"([^\"\n]*)\"; (.*)\\.$").matcher(description);
+        while (line.find()) {
+            found.add(new Example(line.group(1).replace("\\n", "\n"), List.of(line.group(2).split("; "))));
         }
         return found;
     }

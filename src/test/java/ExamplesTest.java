@@ -1,10 +1,15 @@
-/** The four examples of the document. */
+import java.lang.reflect.InvocationTargetException;
+import java.lang.reflect.Method;
+import java.util.List;
+
+/** The four examples of the document: written out here, and once more as the document has them. */
 final class ExamplesTest {
-    public static void main(String[] args) {
+    public static void main(String[] args) throws ReflectiveOperationException {
         linesThatAreIndented();
         bracesWithinALine();
         lineBetweenTwoColumns();
         bracketsThatDoNotFit();
+        asTheDocumentHasThem();
         Check.end("ExamplesTest");
     }
 
@@ -53,5 +58,54 @@ final class ExamplesTest {
         Check.refuses("4 remove(2)", IllegalArgumentException.class, () -> x.remove(2));
         Check.refuses("4 remove(4)", IllegalArgumentException.class, () -> x.remove(4));
         Check.same("4 nodeCount()", 8, x.nodeCount());
+    }
+
+    /** So that an example that is changed in the document is played as it is then. */
+    private static void asTheDocumentHasThem() throws ReflectiveOperationException {
+        if (!Document.isThere()) {
+            return;
+        }
+        List<Document.Example> examples = Document.examples();
+        Check.same("examples in the document", 4, examples.size());
+        for (Document.Example example : examples) {
+            OffsideParser x = Check.fed(example.text());
+            for (String call : example.calls()) {
+                int end = call.indexOf(" = ");
+                Check.same("that this is a call with a result: " + call, true, end > 0);
+                String due = call.substring(end + 3);
+                Check.same("\"" + example.text() + "\" " + call, due, answer(x, call.substring(0, end)));
+            }
+        }
+    }
+
+    /** What a call answers that is written as in the document, for instance find(121L, 0). */
+    private static String answer(OffsideParser x, String call) throws ReflectiveOperationException {
+        String name = call.substring(0, call.indexOf('('));
+        String inside = call.substring(call.indexOf('(') + 1, call.length() - 1);
+        String[] given = inside.isEmpty() ? new String[0] : inside.split(", ");
+        for (Method method : OffsideParser.class.getDeclaredMethods()) {
+            if (method.getName().equals(name)) {
+                try {
+                    return method.invoke(x, arguments(method.getParameterTypes(), given)).toString();
+                } catch (InvocationTargetException e) {
+                    return "throws " + e.getCause().getClass().getSimpleName();
+                }
+            }
+        }
+        return "no such method";
+    }
+
+    private static Object[] arguments(Class<?>[] types, String[] given) {
+        Object[] made = new Object[given.length];
+        for (int i = 0; i < given.length; i++) {
+            if (types[i] == boolean.class) {
+                made[i] = Boolean.valueOf(given[i]);
+            } else if (types[i] == long.class) {
+                made[i] = Long.valueOf(given[i].replace("L", ""));
+            } else {
+                made[i] = Integer.valueOf(given[i]);
+            }
+        }
+        return made;
     }
 }
