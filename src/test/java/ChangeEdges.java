@@ -210,6 +210,13 @@ final class ChangeEdges {
         }
     }
 
+    /** Blocks and groups in the items before and behind the one that is moved do not count. */
+    private static void depthBesideEdge(String beside) {
+        OffsideParser x = nested(30, beside + "\nb\n" + beside);
+        Check.same("items of the root", 4, x.childCount(0));
+        Check.same("move to 30 blocks from between two \"" + beside + "\"", 91, x.move(x.child(0, 2), 90, 0));
+    }
+
     private static void moveRefusesDepth() {
         Check.sentence("Promise 21", MOVE_WRONG);
         depthEdge("b", 0);
@@ -229,6 +236,9 @@ final class ChangeEdges {
         depthEdge("b:{c:{(d)}e}", 3);
         depthEdge("b:{(((c)))}:{}", 4);
         depthEdge("(".repeat(28) + ")".repeat(28), 28);
+        for (String beside : new String[] {"()", "(())", "(c)", "c:", "c:{}", "c:d", "c:d:"}) {
+            depthBesideEdge(beside);
+        }
         OffsideParser thirty = Check.parsed("a;" + "b:".repeat(30) + "c");
         Check.same("30 blocks within the root", 1, thirty.move(3, 0, 0));
         OffsideParser groups = Check.parsed("a;" + "(".repeat(30) + ")".repeat(30));
